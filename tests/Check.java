@@ -106,6 +106,8 @@ final class Check {
             int at = i;
             state.append('\n').append(i).append(' ').append(orThrown(() -> hall.seatsOf(at)))
                 .append(' ').append(orThrown(() -> hall.seatAt(at)))
+                .append(' ').append(orThrown(() -> hall.seatShare(at)))
+                .append(' ').append(orThrown(() -> hall.meanRank(at)))
                 .append(' ').append(orThrown(() -> hall.electedAt(at)))
                 .append(' ').append(orThrown(() -> hall.excludedAt(at)))
                 .append(' ').append(orThrown(() -> hall.winner(at)))

@@ -58,6 +58,7 @@ public final class CouncilTest {
         check.same("all are not enough", power(hall, 4), "0:0 0:0 0:0 0:0 ");
         hall.setQuota(1);
         check.same("each is enough", power(hall, 4), "1:6 1:6 1:6 1:6 ");
+        check.same("orders before anything else is asked", council(6, 4, 3, 2, 1).ordersTurned(0), 10);
         check.same("a member without weight", power(council(1, 0, 5), 2), "0:0 2:2 ");
         check.same("a dictator", power(council(3, 1, 3, 1), 3), "0:0 4:6 0:0 ");
         check.same("a single one", power(council(5, 5), 1), "1:1 ");

@@ -251,6 +251,11 @@ public final class CountTest {
         hall.candidate();
         check.same("not all any more", hall.solidQuotas(15), 0);
         check.same("all", hall.solidQuotas(31), 4);
+        Ballothall none = Check.withCandidates(2);
+        none.transferable(1);
+        check.same("no ballots, quota 1", none.solidQuotas(3), 0);
+        Check.cast(none, "B", 1);
+        check.same("one ballot, quota 1", none.solidQuotas(2), 1);
         for (int set : new int[] {0, -1, 32, Integer.MAX_VALUE, Integer.MIN_VALUE}) {
             check.refused(hall, "solidQuotas(" + set + ")", ARGUMENT, () -> hall.solidQuotas(set));
         }

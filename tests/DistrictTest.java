@@ -90,14 +90,23 @@ public final class DistrictTest {
         check.same("districtsWon(5, 1)", hall.districtsWon(5, 1), 2);
         check.same("districtsWon(1, 0)", hall.districtsWon(1, 0), 0);
         check.same("districtsWon(1, 1)", hall.districtsWon(1, 1), 1);
+        Ballothall row = new Ballothall();
+        for (int i = 0; i < 16; i++) {
+            row.ward(1, 9, 5 * (i % 3));
+        }
+        check.same("all wards, A", row.districtsWon(16, 0), 11);
+        check.same("all wards, B", row.districtsWon(16, 1), 5);
+        check.same("fewer districts afterwards", row.districtsWon(1, 0) + row.districtsWon(1, 1), 1);
         check.promise(45);
+        check.same("all wards, A", row.wasted(16, 0), 6 * 4 + 5 * 1 + 5 * 9);
+        check.same("one district", row.wasted(1, 1), 75);
         check.same("wasted(3, 0)", hall.wasted(3, 0), 8 + 8 + 2);
         check.same("wasted(3, 1)", hall.wasted(3, 1), 13 - 10 - 1 + 8 + 8 - 5 - 1);
         check.same("wasted(5, 0)", hall.wasted(5, 0), 5 - 4 - 1 + 3 + 8 + 2 - 1 - 1 + 0);
         check.same("wasted(5, 1)", hall.wasted(5, 1), 4 + 9 - 6 - 1 + 8 + 1 + 7 - 3 - 1);
         for (int wrong : WRONG) {
             check.promise(44);
-            check.refused(hall, "districtsWon(" + wrong + ", 2)", ARGUMENT, () -> hall.districtsWon(wrong, 2));
+            check.refused(hall, "districtsWon(" + wrong + ", 1)", ARGUMENT, () -> hall.districtsWon(wrong, 1));
             check.promise(45);
             check.refused(hall, "wasted(" + wrong + ", 0)", ARGUMENT, () -> hall.wasted(wrong, 0));
         }

@@ -64,6 +64,10 @@ public final class HouseTest {
         undone(hall, "ward()", () -> hall.ward(9, 9, 9));
         undone(hall, "member()", () -> hall.member(9));
         undone(hall, "setQuota()", () -> hall.setQuota(9));
+        check.same("the alliance is the first one again", hall.ally(1, 0), 0);
+        hall.undo();
+        check.same("a list's lot is the first one again", hall.setLot(true, 0, 0), 0);
+        hall.undo();
         check.same("the lot is the first one again", hall.setLot(false, 0, 1), 0);
         hall.undo();
         hall.candidate();
@@ -139,6 +143,22 @@ public final class HouseTest {
         hall.undo();
         check.refused(hall, "no count", ELEMENT, () -> hall.electedAt(0));
         check.same("quota()", hall.quota(), -1);
+        for (int i = 0; i < 30; i++) {
+            hall.transferable(1 + i % 3);
+        }
+        for (int i = 29; i >= 10; i--) {
+            check.same("the count " + i + " of many", hall.quota(), 3 / (2 + i % 3) + 1);
+            check.same("undo()", hall.undo(), i - 10);
+        }
+        check.same("the eleventh last one", hall.quota(), 3 / 2 + 1);
+        for (int i = 0; i < 30; i++) {
+            hall.seats(0, 1 + i, 0);
+        }
+        for (int i = 29; i >= 10; i--) {
+            check.same("the seats " + i + " of many", hall.seatsOf(0), 1 + i);
+            check.same("undo()", hall.undo(), i - 10);
+        }
+        check.same("the eleventh last one", hall.seatsOf(0), 10);
         for (int i = 0; i < 50; i++) {
             hall.transferable(1 + i % 3);
             hall.seats(0, 1 + i, 0);
@@ -152,6 +172,28 @@ public final class HouseTest {
         check.same("no more", hall.undo(), -1);
         check.same("the count that stays", hall.quota(), 3 / 2 + 1);
         check.same("the seats that stay", hall.seatsOf(0), 40);
+    }
+
+    private static void kindsThatComeAgain() {
+        check.promise(50);
+        Ballothall hall = Check.withCandidates(3);
+        Check.cast(hall, "A", 5);
+        hall.transferable(1);
+        Check.cast(hall, "B>A", 99);
+        Check.cast(hall, "C>A", 77);
+        hall.undo();
+        hall.undo();
+        check.refused(hall, "countOf(1)", INDEX, () -> hall.countOf(1));
+        check.same("allBallots()", hall.allBallots(), 5);
+        check.same("meanRank(1)", hall.meanRank(1), 1.0);
+        check.same("solidQuotas(2)", hall.solidQuotas(2), 0);
+        check.same("winner(0)", hall.winner(0), 0);
+        check.same("transferable(1)", hall.transferable(1), 1);
+        check.same("a pile", Check.pile(hall, 0, 1), "0");
+        check.same("another kind with its number", Check.cast(hall, "B=C", 3), 1);
+        check.same("its count", hall.countOf(1), 3);
+        check.same("its rank", hall.kindAt(1, 0, true), 1);
+        check.same("errors()", hall.errors(), 0);
     }
 
     private static void sums() {
@@ -243,6 +285,7 @@ public final class HouseTest {
         eachChange();
         howMany();
         results();
+        kindsThatComeAgain();
         sums();
         errors();
         check.end();

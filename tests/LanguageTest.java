@@ -13,7 +13,7 @@ public final class LanguageTest {
         "\\bstatic\\s*\\{", "\\bgetClass\\b", "\\bhashCode\\b", "\\btoString\\b", "\\bequals\\b", "\\binstanceof\\b",
         "while \\(true\\)", "for \\(;;", "for \\([^;]*;\\s*;", "\\bRandom\\b", "\\bThread\\b",
         "System\\.(?!arraycopy\\()", "Math\\.(?!(max|min|abs|floorDiv|floorMod)\\()",
-        "Integer\\.(?!(bitCount\\(|MAX_VALUE))", "Long\\.(?!MAX_VALUE)", "Arrays\\.(?!fill\\()",
+        "Integer\\.(?!bitCount\\()", "Long\\.", "Arrays\\.(?!fill\\([^,]*, [^,]*\\))",
         "throw new (?!(IllegalState|IllegalArgument|IndexOutOfBounds|NoSuchElement)Exception\\(\"[^\"]*\"\\);)"
     };
 

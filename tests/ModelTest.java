@@ -227,12 +227,43 @@ public final class ModelTest {
         return call("errors");
     }
 
+    /** A count of many ballots of many kinds for 8 candidates, whose piles have long numbers. */
+    private boolean countMany() {
+        for (int c = 0; c < 8; c++) {
+            hall.candidate();
+            model.candidate();
+        }
+        int kinds = 5 + random.nextInt(20);
+        for (int kind = 0; kind < kinds; kind++) {
+            StringBuilder text = new StringBuilder();
+            List<Character> letters = new ArrayList<>(List.of('A', 'B', 'C', 'D', 'E', 'F', 'G', 'H'));
+            while (letters.size() > kind % 3) {
+                text.append(text.length() == 0 ? "" : random.nextInt(3) == 0 ? "=" : ">")
+                    .append(letters.remove(random.nextInt(letters.size())));
+            }
+            for (int i = 0; i < text.length(); i++) {
+                hall.type(text.charAt(i));
+                model.type(text.charAt(i));
+            }
+            if (!agree("ballots", 1 + random.nextInt(100000))) {
+                return false;
+            }
+        }
+        boolean good = agree("transferable", 3);
+        for (int step = 0; step <= hall.steps() && good; step++) {
+            for (int c = -1; c < 8 && good; c++) {
+                good = agree("writePile", step, c) && sameOutput();
+            }
+        }
+        return good && agree("errors");
+    }
+
     public static void main(String[] arguments) {
         int runs = arguments.length > 0 ? Integer.parseInt(arguments[0]) : 400;
         long start = arguments.length > 1 ? Long.parseLong(arguments[1]) : 1;
         int failed = 0;
         for (long seed = start; seed < start + runs && failed < 3; seed++) {
-            if (!new ModelTest(seed).run(400)) {
+            if (!new ModelTest(seed).run(400) || !new ModelTest(seed).countMany()) {
                 System.out.println("seed " + seed);
                 failed++;
             }

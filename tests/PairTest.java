@@ -105,6 +105,8 @@ public final class PairTest {
         check.same("a circle ahead of another one", hall.beatingSet(), 7);
         Check.cast(hall, "D", 100);
         check.same("one who beats all", hall.beatingSet(), 8);
+        Check.cast(hall, "A", 200);
+        check.same("the first one", hall.beatingSet(), 1);
         Ballothall pair = Check.withCandidates(4);
         Check.cast(pair, "B>D>A>C", 2);
         Check.cast(pair, "D>B>C>A", 2);

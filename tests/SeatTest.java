@@ -100,6 +100,30 @@ public final class SeatTest {
         }
     }
 
+    private static void divisors() {
+        // Each row: the second list is just behind or just ahead when the first one has so many seats.
+        int[][] rows = {{0, 1, 20000, 10001}, {0, 2, 30000, 10001}, {1, 1, 30000, 10001}, {1, 2, 50000, 10001},
+            {2, 1, 30000, 14001}, {2, 2, 50000, 14001}, {2, 3, 70000, 14001}, {3, 1, 40000, 10001}, {3, 2, 70000, 10001},
+            {3, 3, 100000, 10001}, {4, 1, 30000, 20001}, {4, 2, 40000, 20001}, {4, 3, 50000, 20001}};
+        for (int[] row : rows) {
+            Ballothall hall = withLists(row[2], row[3]);
+            hall.seats(row[0], row[1] + 1, 0);
+            check.same("ahead by the method " + row[0], hall.seatsOf(1), 1);
+            hall.setVotes(1, row[3] - 2);
+            hall.seats(row[0], row[1] + 1, 0);
+            check.same("behind by the method " + row[0], hall.seatsOf(1), 0);
+        }
+        for (int method = 0; method < 6; method++) {
+            Ballothall single = withLists(1, 0);
+            check.same("one vote", single.seats(method, 3, 20), 1);
+            check.same("its seats", got(single, 2), "3 0");
+            single.ally(0, 2);
+            single.ally(1, 2);
+            single.seats(method, 4, 20);
+            check.same("its seats inside", got(single, 2), "4 0");
+        }
+    }
+
     private static void thresholds() {
         Ballothall hall = withLists(51, 949, 0, 50);
         hall.setVotes(3, 0);
@@ -236,6 +260,10 @@ public final class SeatTest {
         check.same("lossAt(2)", hall.lossAt(2), -1);
         check.same("seats that nobody has", got(hall, 3), "0 0 0");
         check.same("no change", hall.undo(), 2);
+        // 47 seats: 29.38, 17.21, 0.42; 48 seats: 30, 17.57, 0.43.
+        Ballothall tiny = withLists(70, 41, 1);
+        check.same("a list with less than one percent", tiny.lossAt(47), 47);
+        check.same("not before", tiny.lossAt(46), -1);
         Ballothall allied = withLists(6, 6, 2, 0);
         allied.ally(2, 1);
         allied.ally(0, 1);
@@ -253,6 +281,7 @@ public final class SeatTest {
     public static void main(String[] arguments) {
         lists();
         methods();
+        divisors();
         thresholds();
         ties();
         alliances();

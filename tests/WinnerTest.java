@@ -125,6 +125,7 @@ public final class WinnerTest {
         check.same("less of a kind that is not there", with(hall, "A", 0, -1000), 0);
         check.same("more of a kind that is not there", with(hall, "B", 0, 3), 1);
         check.same("none", with(hall, "B", 0, 0), 0);
+        check.same("one of a kind that is not there", with(Check.withCandidates(2), "B", 0, 1), 1);
         check.same("the empty ballot", with(hall, "", 3, 1000), 1);
         check.same("a runoff", with(hall, "B>A", 1, 2), 1);
         check.same("a runoff with less", with(hall, "C>B>A", 1, -2), 0);
@@ -205,6 +206,23 @@ public final class WinnerTest {
             check.refused(points, "gain(" + way + ")", ARGUMENT, () -> points.gain(way));
             check.refused(points, "gainAt(" + way + ", -1)", ARGUMENT, () -> points.gainAt(way, -1));
         }
+        // C would win with one more, but nobody cast that kind; then one does.
+        Ballothall single = Check.withCandidates(3);
+        Check.cast(single, "A", 4);
+        Check.cast(single, "C", 4);
+        Check.cast(single, "B>C", 1);
+        check.same("the only ballot of a kind", single.gain(0), 2);
+        single.takeBack(2, 1);
+        check.same("a kind that nobody cast any more", single.gain(0), -1);
+        // A 5 and B 5 approvals: who ranks B ahead and approves both, gains by B alone.
+        Ballothall approving = Check.withCandidates(3);
+        Check.cast(approving, "A", 3);
+        Check.cast(approving, "B", 3);
+        Check.cast(approving, "B>A|C", 2);
+        check.same("by approvals", approving.winner(4) + " " + approving.gain(4), "0 2");
+        check.promise(37);
+        check.same("it approves the first one alone", lie(approving, 4), "102");
+        check.promise(36);
         check.same("without candidates", new Ballothall().gain(0), -1);
         Ballothall empty = new Ballothall();
         empty.ballots(3);

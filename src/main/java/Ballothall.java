@@ -13,10 +13,19 @@ public final class Ballothall {
     private static final int MAX_CANDIDATES = 8;
     private static final int MAX_KINDS = 30;
     private static final int MAX_OF_KIND = 1000000;
+    private static final int MAX_AT_ONCE = 100000;
+    private static final int MAX_MORE = 1000;
     private static final int MAX_LISTS = 8;
+    private static final int MAX_ALLIANCE = 4;
     private static final int MAX_SEATS = 60;
+    private static final int MAX_THRESHOLD = 20;
     private static final int MAX_WARDS = 16;
+    private static final int MAX_HEADS = 100000;
+    private static final int TOO_MANY_HEADS = MAX_WARDS * MAX_HEADS + 1;
+    private static final int MAX_WARD_VOTES = 100000;
     private static final int MAX_MEMBERS = 12;
+    private static final int MAX_WEIGHT = 1000;
+    private static final int MAX_QUOTA = MAX_MEMBERS * MAX_WEIGHT;
     private static final int MAX_TEXT = 30;
     private static final int MAX_UNDO = 20;
     private static final int MAX_LOT = 99;
@@ -137,7 +146,7 @@ public final class Ballothall {
     }
 
     public int ballots(int count) throws IllegalArgumentException, IllegalStateException {
-        needRange(count, 1, 100000);
+        needRange(count, 1, MAX_AT_ONCE);
         int error = box.readTrial();
         if (error != NONE) {
             box.signs = 0;
@@ -201,7 +210,7 @@ public final class Ballothall {
 
     public int ally(int list, int alliance) throws IndexOutOfBoundsException, IllegalArgumentException {
         needIndex(list, lists.size);
-        needRange(alliance, 0, 4);
+        needRange(alliance, 0, MAX_ALLIANCE);
         int before = lists.alliance[list];
         lists.alliance[list] = alliance;
         remember(ALLIANCE_SET, list, before);
@@ -211,7 +220,7 @@ public final class Ballothall {
     public int seats(int method, int seats, int threshold) throws IllegalArgumentException {
         needRange(method, 0, LARGEST_REMAINDERS);
         needRange(seats, 1, MAX_SEATS);
-        needRange(threshold, 0, 20);
+        needRange(threshold, 0, MAX_THRESHOLD);
         int units = lists.spread(method, seats, threshold);
         lists.keepSpread();
         remember(SEATS_GIVEN, 0, 0);
@@ -377,7 +386,7 @@ public final class Ballothall {
 
     public int winnerWith(int way, int count) throws IllegalArgumentException {
         needRange(way, MOST_FIRSTS, BY_APPROVALS);
-        needRange(count, -1000, 1000);
+        needRange(count, -MAX_MORE, MAX_MORE);
         int error = box.readTrial();
         box.signs = 0;
         if (error != NONE) {
@@ -447,9 +456,9 @@ public final class Ballothall {
     // ---- districts
 
     public int ward(int heads, int votesA, int votesB) throws IllegalArgumentException, IllegalStateException {
-        needRange(heads, 1, 100000);
-        needRange(votesA, 0, 100000);
-        needRange(votesB, 0, 100000);
+        needRange(heads, 1, MAX_HEADS);
+        needRange(votesA, 0, MAX_WARD_VOTES);
+        needRange(votesB, 0, MAX_WARD_VOTES);
         needRoom(wards.size + 1, MAX_WARDS);
         int number = wards.append(heads, votesA, votesB);
         remember(WARD_CAME, number, 0);
@@ -497,7 +506,7 @@ public final class Ballothall {
     // ---- councils
 
     public int member(int weight) throws IllegalArgumentException, IllegalStateException {
-        needRange(weight, 0, 1000);
+        needRange(weight, 0, MAX_WEIGHT);
         needRoom(council.size + 1, MAX_MEMBERS);
         int number = council.append(weight);
         remember(MEMBER_CAME, number, 0);
@@ -505,7 +514,7 @@ public final class Ballothall {
     }
 
     public int setQuota(int quota) throws IllegalArgumentException {
-        needRange(quota, 1, 12000);
+        needRange(quota, 1, MAX_QUOTA);
         int before = council.quota;
         council.quota = quota;
         remember(QUOTA_SET, 0, before);
@@ -1030,10 +1039,11 @@ public final class Ballothall {
         private void findDistances() {
             distance[0] = 0;
             for (int set = 1; set <= present; set++) {
-                long least = Long.MAX_VALUE;
+                long least = NONE;
                 for (int c = 0; c < box.candidates; c++) {
                     if (has(set, c)) {
-                        least = Math.min(least, distanceWithFirst(set, c));
+                        long sum = distanceWithFirst(set, c);
+                        least = least == NONE ? sum : Math.min(least, sum);
                     }
                 }
                 distance[set] = least;
@@ -1771,8 +1781,10 @@ public final class Ballothall {
 
         private void exclude(Count count, int candidate) {
             hopeful &= ~(1 << candidate);
-            count.excluded[count.exclusions] = candidate;
-            count.exclusions++;
+            if (count.exclusions < MAX_CANDIDATES) {
+                count.excluded[count.exclusions] = candidate;
+                count.exclusions++;
+            }
             pile[candidate].become(0);
             for (int kind = 0; kind < count.kinds; kind++) {
                 amount.copyFrom(weightOf(kind, candidate));
@@ -1880,8 +1892,9 @@ public final class Ballothall {
         }
 
         private void store(int[] row, int place) {
-            System.arraycopy(limb, 0, row, place, size);
-            Arrays.fill(row, place + size, place + LIMBS, 0);
+            for (int i = 0; i < LIMBS; i++) {
+                row[place + i] = limbAt(i);
+            }
         }
 
         private void load(int[] row, int place) {
@@ -1991,7 +2004,9 @@ public final class Ballothall {
             shifted.copyFrom(divisor);
             shifted.multiplySmall(1 << shift);
             multiplySmall(1 << shift);
-            Arrays.fill(limb, size, LIMBS, 0);
+            for (int i = size; i < LIMBS; i++) {
+                limb[i] = 0;
+            }
             Arrays.fill(quotient.limb, 0);
             for (int place = Math.min(size, LIMBS - 1) - shifted.size; place >= 0; place--) {
                 quotient.limb[place] = takeMultiple(shifted, place);
@@ -2005,6 +2020,9 @@ public final class Ballothall {
         private int takeMultiple(Natural divisor, int place) {
             int top = place + divisor.size;
             long high = divisor.limb[divisor.size - 1];
+            if (high == 0) {
+                return 0;
+            }
             long value = ((long) limb[top] << LIMB_BITS) + limb[top - 1];
             long guess = Math.min(value / high, LIMB_MASK);
             long rest = value - guess * high;
@@ -2069,7 +2087,7 @@ public final class Ballothall {
         }
 
         private int greatestOf(int parts, int first) {
-            int least = Integer.MAX_VALUE;
+            int least = TOO_MANY_HEADS;
             int sum = 0;
             for (int last = first; last <= size - parts; last++) {
                 sum += heads[last];
@@ -2081,7 +2099,7 @@ public final class Ballothall {
         /** The greatest district behind a ward at which the first of these parts ends. */
         private int greatestBehind(int last, int parts) {
             if (last + 1 < size) {
-                return parts > 1 ? greatest[parts - 1][last + 1] : Integer.MAX_VALUE;
+                return parts > 1 ? greatest[parts - 1][last + 1] : TOO_MANY_HEADS;
             }
             return 0;
         }
