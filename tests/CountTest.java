@@ -194,6 +194,32 @@ public final class CountTest {
         check.same("excluded by lot", excluded(equal), "2");
     }
 
+    private static void manyCounts() {
+        check.promise(17);
+        Ballothall hall = Check.withCandidates(3);
+        for (int i = 0; i < 45; i++) {
+            for (int c = 0; c < 3; c++) {
+                hall.setLot(false, c, (c + i) % 3);
+            }
+            check.same("the count " + i, hall.transferable(1 + i % 2), 1 + i % 2);
+            check.same("its first one", hall.electedAt(0), (3 - i % 3) % 3);
+            check.same("its last one", hall.excludedAt(0), (5 - i % 3) % 3);
+            check.same("how many are elected", elected(hall).length(), 1 + i % 2);
+            check.same("how many are excluded", excluded(hall).length(), 2 - i % 2);
+            check.same("its steps", hall.steps(), 3);
+        }
+        // 20 ballots, quota 7: B passes 3 on to C, who goes; then A's 4 go to D as a whole.
+        Ballothall whole = Check.withCandidates(4);
+        Check.cast(whole, "B>C", 10);
+        Check.cast(whole, "A>D", 4);
+        Check.cast(whole, "D", 6);
+        check.same("transferable(2)", whole.transferable(2), 2);
+        check.same("piles after B", piles(whole, 1, 4), "4 7 3 6 0");
+        check.same("piles after C", piles(whole, 2, 4), "4 7 0 6 3");
+        check.same("piles after A", piles(whole, 3, 4), "0 7 0 10 3");
+        check.same("the elected", elected(whole), "13");
+    }
+
     private static void lastGroup() {
         Ballothall hall = Check.withCandidates(3);
         Check.cast(hall, "A", 2);
@@ -267,6 +293,7 @@ public final class CountTest {
         fractions();
         greatNumbers();
         ends();
+        manyCounts();
         lastGroup();
         keeping();
         solid();

@@ -258,6 +258,7 @@ public final class SeatTest {
         check.same("lossAt(60)", hall.lossAt(60), 3);
         check.same("lossAt(3)", hall.lossAt(3), 3);
         check.same("lossAt(2)", hall.lossAt(2), -1);
+        check.same("the first list loses", withLists(2, 6, 6).lossAt(60), 3);
         check.same("seats that nobody has", got(hall, 3), "0 0 0");
         check.same("no change", hall.undo(), 2);
         // 47 seats: 29.38, 17.21, 0.42; 48 seats: 30, 17.57, 0.43.

@@ -109,6 +109,12 @@ public final class WinnerTest {
         check.same("who is left", tie.winner(1), 1);
     }
 
+    private static Ballothall one(String ballot, int count) {
+        Ballothall hall = Check.withCandidates(2);
+        Check.cast(hall, ballot, count);
+        return hall;
+    }
+
     private static int with(Ballothall hall, String ballot, int way, int count) {
         Check.type(hall, ballot);
         return hall.winnerWith(way, count);
@@ -126,6 +132,9 @@ public final class WinnerTest {
         check.same("more of a kind that is not there", with(hall, "B", 0, 3), 1);
         check.same("none", with(hall, "B", 0, 0), 0);
         check.same("one of a kind that is not there", with(Check.withCandidates(2), "B", 0, 1), 1);
+        check.same("one less of four", with(hall, "A>B>C", 0, -1), 0);
+        check.same("no less than nothing is left", with(one("A", 3), "A", 0, -1000), 0);
+        check.same("of points as well", with(one("B", 3), "B", 3, -4), 0);
         check.same("the empty ballot", with(hall, "", 3, 1000), 1);
         check.same("a runoff", with(hall, "B>A", 1, 2), 1);
         check.same("a runoff with less", with(hall, "C>B>A", 1, -2), 0);
