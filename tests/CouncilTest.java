@@ -25,10 +25,10 @@ public final class CouncilTest {
     private static void members() {
         check.promise(46);
         Ballothall hall = new Ballothall();
+        for (int wrong : new int[] {-1, 1001, Integer.MAX_VALUE, Integer.MIN_VALUE}) {
+            check.refused(hall, "member(" + wrong + ")", ARGUMENT, () -> hall.member(wrong));
+        }
         for (int i = 0; i < 12; i++) {
-            for (int wrong : new int[] {-1, 1001, Integer.MAX_VALUE, Integer.MIN_VALUE}) {
-                check.refused(hall, "member(" + wrong + ")", ARGUMENT, () -> hall.member(wrong));
-            }
             check.same("member()", hall.member(i % 2 == 0 ? 0 : 1000), i);
         }
         check.refused(hall, "a 13th member", STATE, () -> hall.member(1));

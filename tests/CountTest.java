@@ -197,7 +197,7 @@ public final class CountTest {
     private static void manyCounts() {
         check.promise(17);
         Ballothall hall = Check.withCandidates(3);
-        for (int i = 0; i < 45; i++) {
+        for (int i = 0; i < 40; i++) {
             for (int c = 0; c < 3; c++) {
                 hall.setLot(false, c, (c + i) % 3);
             }

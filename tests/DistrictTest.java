@@ -28,13 +28,13 @@ public final class DistrictTest {
     private static void wards() {
         check.promise(41);
         Ballothall hall = new Ballothall();
+        for (int wrong : new int[] {-1, 100001, Integer.MAX_VALUE, Integer.MIN_VALUE}) {
+            check.refused(hall, "heads " + wrong, ARGUMENT, () -> hall.ward(wrong, 0, 0));
+            check.refused(hall, "votesA " + wrong, ARGUMENT, () -> hall.ward(1, wrong, 0));
+            check.refused(hall, "votesB " + wrong, ARGUMENT, () -> hall.ward(1, 0, wrong));
+        }
+        check.refused(hall, "heads 0", ARGUMENT, () -> hall.ward(0, 0, 0));
         for (int i = 0; i < 16; i++) {
-            for (int wrong : new int[] {-1, 100001, Integer.MAX_VALUE, Integer.MIN_VALUE}) {
-                check.refused(hall, "heads " + wrong, ARGUMENT, () -> hall.ward(wrong, 0, 0));
-                check.refused(hall, "votesA " + wrong, ARGUMENT, () -> hall.ward(1, wrong, 0));
-                check.refused(hall, "votesB " + wrong, ARGUMENT, () -> hall.ward(1, 0, wrong));
-            }
-            check.refused(hall, "heads 0", ARGUMENT, () -> hall.ward(0, 0, 0));
             check.same("ward()", i % 2 == 0 ? hall.ward(1, 0, 100000) : hall.ward(100000, 100000, 0), i);
         }
         check.refused(hall, "a 17th ward", STATE, () -> hall.ward(1, 0, 0));

@@ -1,4 +1,5 @@
 import java.util.NoSuchElementException;
+import java.util.function.Function;
 
 /** Promises 50 to 54: undo, the checksum, means and shares, errors. */
 public final class HouseTest {
@@ -28,13 +29,26 @@ public final class HouseTest {
         return hall;
     }
 
-    private static void undone(Ballothall hall, String what, Check.Call change) {
-        String before = Check.stateOf(hall) + hall.lossAt(60) + hall.spoiler(0) + hall.errors();
-        change.answer();
-        int left = hall.undo();
-        check.same("undo of " + what, Check.stateOf(hall) + hall.lossAt(60) + hall.spoiler(0) + hall.errors(), before);
-        check.same("changes after " + what, left, 19);
-        hall.setQuota(5);
+    /** A full house with 20 changes that can be undone. */
+    private static Ballothall changed() {
+        Ballothall hall = full();
+        for (int i = 0; i < 20; i++) {
+            hall.setQuota(5);
+        }
+        return hall;
+    }
+
+    private static Ballothall changedBack(Function<Ballothall, Object> change) {
+        Ballothall hall = changed();
+        change.apply(hall);
+        check.same("changes that are left", hall.undo(), 19);
+        return hall;
+    }
+
+    private static void undone(String what, Function<Ballothall, Object> change) {
+        check.same("undo of " + what, Check.stateOf(changedBack(change)), Check.stateOf(changed()));
+        check.same("what is hidden after undo of " + what, Check.hiddenOf(changedBack(change)),
+            Check.hiddenOf(changed()));
     }
 
     private static int afterEmptying(Ballothall hall, String ballot, int count) {
@@ -46,24 +60,21 @@ public final class HouseTest {
 
     private static void eachChange() {
         check.promise(50);
-        Ballothall hall = full();
-        for (int i = 0; i < 20; i++) {
-            hall.setQuota(5);
-        }
-        undone(hall, "candidate()", hall::candidate);
-        undone(hall, "setLot(false)", () -> hall.setLot(false, 0, 99));
-        undone(hall, "setLot(true)", () -> hall.setLot(true, 0, 99));
-        undone(hall, "ballots() of a new kind", () -> afterEmptying(hall, "C>D", 9));
-        undone(hall, "ballots() of a kind that is there", () -> afterEmptying(hall, "D|A", 9));
-        undone(hall, "takeBack()", () -> hall.takeBack(0, 40));
-        undone(hall, "list()", () -> hall.list(1000));
-        undone(hall, "setVotes()", () -> hall.setVotes(1, 3));
-        undone(hall, "ally()", () -> hall.ally(1, 2));
-        undone(hall, "seats()", () -> hall.seats(5, 20, 20));
-        undone(hall, "transferable()", () -> hall.transferable(1));
-        undone(hall, "ward()", () -> hall.ward(9, 9, 9));
-        undone(hall, "member()", () -> hall.member(9));
-        undone(hall, "setQuota()", () -> hall.setQuota(9));
+        undone("candidate()", Ballothall::candidate);
+        undone("setLot(false)", hall -> hall.setLot(false, 0, 99));
+        undone("setLot(true)", hall -> hall.setLot(true, 0, 99));
+        undone("ballots() of a new kind", hall -> afterEmptying(hall, "C>D", 9));
+        undone("ballots() of a kind that is there", hall -> afterEmptying(hall, "D|A", 9));
+        undone("takeBack()", hall -> hall.takeBack(0, 40));
+        undone("list()", hall -> hall.list(1000));
+        undone("setVotes()", hall -> hall.setVotes(1, 3));
+        undone("ally()", hall -> hall.ally(1, 2));
+        undone("seats()", hall -> hall.seats(5, 20, 20));
+        undone("transferable()", hall -> hall.transferable(1));
+        undone("ward()", hall -> hall.ward(9, 9, 9));
+        undone("member()", hall -> hall.member(9));
+        undone("setQuota()", hall -> hall.setQuota(9));
+        Ballothall hall = changed();
         check.same("the alliance is the first one again", hall.ally(1, 0), 0);
         hall.undo();
         check.same("a list's lot is the first one again", hall.setLot(true, 0, 0), 0);

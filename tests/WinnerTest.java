@@ -144,20 +144,22 @@ public final class WinnerTest {
         check.same("approvals ahead of a bar", with(hall, "B>C|A", 4, 5), 2);
         check.same("the state", Check.stateOf(hall), before);
         check.same("no change", hall.undo(), 5);
-        hall.candidate();
-        Check.cast(hall, "C>A", 3);
-        check.same("an error", with(hall, "A>B>A", 0, 1), -3 - 4);
-        check.same("the text is empty then", hall.type(0), 0);
-        check.same("an early end", with(hall, "A>", 0, 1), -5);
-        Check.type(hall, "C");
+        Ballothall later = divided();
+        later.undo();
+        later.candidate();
+        Check.cast(later, "C>A", 3);
+        check.same("an error", with(later, "A>B>A", 0, 1), -3 - 4);
+        check.same("the text is empty then", later.type(0), 0);
+        check.same("an early end", with(later, "A>", 0, 1), -5);
+        Check.type(later, "C");
         for (int way : WRONG_WAYS) {
-            check.refused(hall, "winnerWith(" + way + ", 0)", ARGUMENT, () -> hall.winnerWith(way, 0));
+            check.refused(later, "winnerWith(" + way + ", 0)", ARGUMENT, () -> later.winnerWith(way, 0));
         }
         for (int count : new int[] {-1001, 1001, Integer.MAX_VALUE, Integer.MIN_VALUE}) {
-            check.refused(hall, "winnerWith(0, " + count + ")", ARGUMENT, () -> hall.winnerWith(0, count));
+            check.refused(later, "winnerWith(0, " + count + ")", ARGUMENT, () -> later.winnerWith(0, count));
         }
-        check.same("the text is still there", hall.winnerWith(0, 1000), 2);
-        check.same("and empty then", hall.type(0), 0);
+        check.same("the text is still there", later.winnerWith(0, 1000), 2);
+        check.same("and empty then", later.type(0), 0);
         Ballothall empty = new Ballothall();
         check.same("without candidates", empty.winnerWith(0, 5), -1);
         check.same("an error without candidates", with(empty, "A", 0, 5), -3);
