@@ -296,6 +296,54 @@ public final class CountEdgeTest {
         check.same("no quota", Check.orThrown(() -> hall.solidQuotas(1)), "IllegalStateException");
     }
 
+    private static void countsOneAfterAnother() {
+        check.sentence(17, "Counts by the transferable vote");
+        Ballothall hall = Houses.withBallots(5, "A>B>C", 8, "B>D", 1, "E", 3, "D=C>A", 2);
+        hall.transferable(3);
+        String first = piles(hall, 1, 5) + ", " + piles(hall, 2, 5) + ", " + piles(hall, hall.steps(), 5);
+        for (int i = 0; i < 3; i++) {
+            hall.transferable(3);
+            check.same("the same ballots once more", piles(hall, 1, 5) + ", " + piles(hall, 2, 5) + ", "
+                + piles(hall, hall.steps(), 5), first);
+        }
+        Ballothall other = Houses.withBallots(5, "A>B>C", 8, "B>D", 1, "E", 3, "D=C>A", 2);
+        other.transferable(1);
+        other.takeBack(0, 7);
+        Check.cast(other, "E>A", 4);
+        other.transferable(2);
+        check.same("other ballots", other.quota() + ": " + piles(other, 0, 5) + ", " + piles(other, 1, 5) + ", "
+            + piles(other, 2, 5), "4: 1 1 1 1 7 0, 19/7 1 1 1 4 9/7, 19/7 1 2 0 4 9/7");
+    }
+
+    private static void surplusAheadOfOthers() {
+        check.sentence(0, "(c) then of each of their parcels the part is passed on");
+        // C passes 3/7 of 7 on; A, who comes ahead of C, passes all that came from C on when they go.
+        Ballothall first = counted(2, 4, "C>A>B", 5, "C>D", 2, "A>B", 1, "B", 2, "D", 1);
+        check.same("quota()", first.quota(), 4);
+        check.same("15/7 to A, 6/7 to D", piles(first, 1, 4), "22/7 2 4 13/7 0");
+        check.same("D is exhausted", piles(first, 2, 4), "22/7 2 4 0 13/7");
+        check.same("B is exhausted", piles(first, 3, 4), "22/7 0 4 0 27/7");
+        Ballothall second = counted(2, 4, "C>A>B", 4, "C>D", 3, "A>B", 1, "B", 3, "D", 2);
+        check.same("quota()", second.quota(), 5);
+        check.same("8/7 to A, 6/7 to D", piles(second, 1, 4), "15/7 3 5 20/7 0");
+        check.same("from A to B as it came, and what A had before", piles(second, 2, 4), "0 36/7 5 20/7 0");
+    }
+
+    private static void wholePiles() {
+        check.sentence(22, "numerator, then a slash and the denominator, if this is not 1");
+        int[] counts = {1, 2, 29, 20000, 26630, 26631, 26632, 30000, 53261, 99999, 100000};
+        for (int candidates = 1; candidates <= 8; candidates++) {
+            for (int count : counts) {
+                Ballothall hall = counted(1, candidates, "A", count);
+                check.same(count + " ballots for one of " + candidates, Check.pile(hall, 0, 0), count);
+            }
+        }
+        for (int count : counts) {
+            Ballothall two = counted(1, 8, "A>B", count, "A>C", count, "A>D", count);
+            check.same("three times " + count, Check.pile(two, 0, 0), 3 * count);
+        }
+    }
+
     // ---- promises 18 to 21
 
     private static void withoutCount() {
@@ -509,6 +557,11 @@ public final class CountEdgeTest {
         check.same("one less than two quotas", hall.solidQuotas(3), 1);
         Check.cast(hall, "B>A", 1);
         check.same("just two quotas", hall.solidQuotas(3), 2);
+        Ballothall one = counted(3, 4);
+        check.same("the quota 1 without ballots", one.quota() + " " + one.solidQuotas(1) + " " + one.solidQuotas(15), "1 0 0");
+        Check.cast(one, "A>B", 1);
+        check.same("the quota 1 and one ballot", one.solidQuotas(1) + " " + one.solidQuotas(3) + " " + one.solidQuotas(2),
+            "1 1 0");
         check.sentence(24, "at most the number of candidates in the set");
         Check.cast(hall, "B>A", 100);
         check.same("many quotas for two", hall.solidQuotas(3), 2);
@@ -541,6 +594,9 @@ public final class CountEdgeTest {
         nobodyHopeful();
         rangeOfSeats();
         keptCount();
+        countsOneAfterAnother();
+        surplusAheadOfOthers();
+        wholePiles();
         withoutCount();
         placesOfElected();
         numberOfSteps();

@@ -112,6 +112,14 @@ public final class HouseEdgeTest {
         check.same("candidate() is undone", hall.undo() + Check.orThrown(() -> hall.meanRank(0)),
             "0IndexOutOfBoundsException");
         check.same("nothing is left", hall.undo(), -1);
+        Ballothall again = Houses.withBallots(2, "A", 5, "B", 7);
+        again.undo();
+        check.same("another kind with the number of one that was undone", Check.cast(again, "A=B", 2) + " "
+            + again.countOf(1) + " " + again.allBallots() + " " + again.kindAt(1, 0, true), "1 2 7 0");
+        again.undo();
+        again.undo();
+        check.same("nothing of it is left", again.allBallots() + " " + again.ahead(0, 1) + " " + again.votesFor(4, 0)
+            + " " + again.winner(0), "0 0 0 0");
     }
 
     private static void changesWithoutDifference() {
@@ -367,6 +375,20 @@ public final class HouseEdgeTest {
             council.setQuota(1);
             check.same("a council without weight and the quota 1", council.errors(), 0);
         }
+        check.sentence(54, "the sets of candidates of that count with more whole quotas (of the ballots of that count) than elected "
+            + "members, but not all of them elected");
+        Ballothall ring = Houses.withBallots(2, "B", 100000);
+        for (int i = 0; i < 25; i++) {
+            ring.transferable(1);
+        }
+        ring.takeBack(0, 99999);
+        Check.cast(ring, "A", 9);
+        for (int i = 0; i < 25; i++) {
+            ring.transferable(1);
+            check.same("many counts of other ballots before", ring.electedAt(0) + " " + ring.errors(), "0 0");
+        }
+        Check.cast(ring, "B", 100000);
+        check.same("many ballots that came later", ring.errors(), 0);
         check.sentence(54, "1 if some list has more votes and fewer seats than another one by the latest seats(), both having the "
             + "alliance 0 and the votes that they had then");
         Ballothall hall = Houses.withLists(100, 10, 40);
@@ -394,6 +416,7 @@ public final class HouseEdgeTest {
         check.same("a smaller list got the seat in its alliance", small.seatsOf(0) + " " + small.errors(), "1 0");
         check.sentence(54, "1 if a candidate beats all others, and does not win alone by strongest paths, or is not the first one of "
             + "the shortest consensus order");
+        check.same("the other one of two beats the first one", Houses.withBallots(2, "A", 2, "B", 3).errors(), 0);
         check.same("a single candidate beats all others", Houses.withBallots(1, "A", 1).errors(), 0);
         check.same("the last one of eight", Houses.withBallots(8, "H", 1).errors(), 0);
     }

@@ -157,7 +157,8 @@ public final class PairEdgeTest {
         for (int count = 1; count <= 8; count++) {
             check.same("all of " + count + " without ballots", Check.withCandidates(count).beatingSet(), (1 << count) - 1);
         }
-        check.same("one", Houses.withBallots(8, "H", 1).beatingSet(), 128);
+        check.same("the last one", Houses.withBallots(8, "H", 1).beatingSet(), 128);
+        check.same("the first one", Houses.withBallots(8, "A", 1).beatingSet(), 1);
         check.same("two equal ones", Houses.withBallots(3, "A", 5, "B", 5).beatingSet(), 3);
         check.same("all but one", Houses.withBallots(4, "A=B=C", 1).beatingSet(), 7);
         check.same("as many do not beat", Houses.withBallots(2, "A", 1, "B", 1).beatingSet(), 3);

@@ -542,6 +542,8 @@ public final class SeatEdgeTest {
         check.same("is not looked at", at60.lossAt(59), -1);
         Ballothall at3 = Houses.withLists(66, 20, 56);
         check.same("a loss with 4 seats", at3.lossAt(60) + " " + at3.lossAt(3), "3 3");
+        check.same("of the first list, of the last list", Houses.withLists(20, 66, 56).lossAt(3) + " "
+            + Houses.withLists(66, 56, 20).lossAt(3), "3 3");
         check.same("is not looked at", at3.lossAt(2) + " " + at3.lossAt(1), "-1 -1");
         for (int most : new int[] {0, -1, 61, MIN, MAX}) {
             refused(SeatEdgeTest::busy, "lossAt(" + most + ")", ARGUMENT, hall -> hall.lossAt(most));

@@ -66,6 +66,18 @@ public final class WinnerEdgeTest {
         }
     }
 
+    private static void fiveWays() {
+        check.sentence(0, "The ways are: 0 most ballots in whose first written group the candidate stands alone; 1 runoff; 2 strongest "
+            + "paths; 3 points; 4 most approvals.");
+        Ballothall hall = Houses.withBallots(4, "A>B>C", 4, "C>B>A", 3, "B>C>A", 2);
+        check.same("three winners", winners(hall), "0 2 1 1 0");
+        Check.cast(hall, "D=B|A", 3);
+        check.same("other ones", winners(hall), "0 1 1 1 1");
+        // D has most points, since all others are far behind on some ballots, but A beats D by 5 : 4.
+        Ballothall points = Houses.withBallots(4, "A>D", 5, "D>B>C>A", 4);
+        check.same("points and paths", points.winner(2) + " " + points.winner(3), "0 3");
+    }
+
     private static void nobodyWins() {
         check.sentence(32, "NONE without candidates");
         check.same("winner()", winners(new Ballothall()), "-1 -1 -1 -1 -1");
@@ -198,6 +210,9 @@ public final class WinnerEdgeTest {
         Ballothall hall = Houses.withBallots(2, "A", 1000, "B", 1);
         check.same("the greatest", with(hall, "B", 0, 1000), 1);
         check.same("one less than that", with(hall, "B", 0, 999), 0);
+        check.same("one", with(Check.withCandidates(2), "B", 0, 1), 1);
+        check.same("one less", with(Houses.withBallots(2, "B", 1, "A=B", 1), "B", 0, -1), 0);
+        check.same("none", with(Houses.withBallots(2, "B", 1), "A", 0, 0), 1);
         check.same("the least", with(hall, "A", 0, -1000), 1);
         check.same("one more than that", with(hall, "A", 0, -999), 0);
         for (int count : new int[] {-1001, 1001, MIN, MAX}) {
@@ -297,6 +312,26 @@ public final class WinnerEdgeTest {
             + hall.gainAt(0, 3) + hall.gainAt(0, 4), "20134");
         Ballothall two = Houses.withBallots(2, "", 1);
         check.same("a kind without a rank gains nothing", two.gain(0), -1);
+        // By points A and C have 14 each; only C > B > A takes a point from A and gives none.
+        Ballothall last = Houses.withBallots(3, "A>C", 3, "C", 2);
+        check.same("the last order of three", last.gain(3) + " " + last.gainAt(3, 0) + last.gainAt(3, 1) + last.gainAt(3, 2),
+            "1 210");
+        Ballothall five = Houses.withBallots(5, "A>B>C", 1, "E", 1);
+        check.same("the last order of five", five.gain(3) + " " + five.gainAt(3, 0) + five.gainAt(3, 1) + five.gainAt(3, 2)
+            + five.gainAt(3, 3) + five.gainAt(3, 4), "1 43210");
+        Ballothall first = Houses.withBallots(3, "C>A", 3, "A", 2);
+        first.setLot(false, 0, 50);
+        check.same("the first order of three, for the first candidate", first.gain(3) + " " + first.gainAt(3, 0)
+            + first.gainAt(3, 1) + first.gainAt(3, 2), "1 012");
+    }
+
+    private static void approvalOfFalseBallots() {
+        check.sentence(36, "a ballot that ranks all candidates strictly (and approves the first one alone)");
+        Ballothall hall = Houses.withBallots(3, "A", 3, "B", 3, "B>A|C", 2);
+        check.same("B alone instead of B and A", hall.winner(4) + " " + hall.gain(4) + " " + hall.gainAt(4, 0)
+            + hall.gainAt(4, 1) + hall.gainAt(4, 2), "0 2 102");
+        Ballothall less = Houses.withBallots(3, "A", 4, "B", 3, "B>A|C", 2);
+        check.same("one ballot is not enough", less.winner(4) + " " + less.gain(4), "0 -1");
     }
 
     private static void kindsThatGain() {
@@ -376,14 +411,23 @@ public final class WinnerEdgeTest {
         Ballothall equal = Houses.withBallots(3, "A", 4, "B=C", 5);
         check.same("B stands alone then", equal.winner(0) + " " + equal.spoiler(0), "0 1");
         check.sentence(38, "if the first group of a ballot without a bar vanishes, nobody is approved by it");
-        Ballothall approved = Houses.withBallots(3, "C>B", 3, "A", 2, "B", 1);
-        check.same("without A, B or anybody C wins", approved.winner(4) + " " + approved.spoiler(4), "2 -1");
-        Ballothall none = Houses.withBallots(3, "A>B", 3, "C", 2, "B", 1);
-        none.setLot(false, 1, 0);
-        none.setLot(false, 0, 50);
-        check.same("A wins, whatever C does", none.winner(4) + " " + none.spoiler(4), "0 -1");
-        Ballothall behind = Houses.withBallots(3, "B>C", 3, "A", 4);
-        check.same("without B nobody but A", behind.spoiler(4), -1);
+        Ballothall vanished = Houses.withBallots(3, "A>B", 4, "B", 2, "C", 5);
+        check.same("C wins, and without A as well", vanished.winner(4) + " " + vanished.spoiler(4), "2 -1");
+        Ballothall pair = Houses.withBallots(3, "A=B>C", 4, "B", 2, "C", 5);
+        check.same("a group that does not vanish", pair.winner(4) + " " + pair.spoiler(4), "1 -1");
+        Ballothall barred = Houses.withBallots(4, "A|B", 4, "B", 2, "C", 5);
+        check.same("a bar behind the first group approves nobody else", barred.winner(4) + " " + barred.spoiler(4), "2 -1");
+        Ballothall behind = Houses.withBallots(4, "A>B|C", 4, "B", 2, "C", 5, "D", 6);
+        check.same("a bar behind another group still approves it", behind.winner(4) + " " + behind.spoiler(4), "1 -1");
+        check.sentence(38, "without whom (taken off all ballots, as if they did not exist) another one would win by the way");
+        Ballothall circle = Houses.withBallots(3, "A>B>C", 3, "B>C>A", 2, "C>A>B", 2);
+        check.same("C beats A, by paths", circle.winner(2) + " " + circle.spoiler(2), "0 1");
+        Ballothall points = Houses.withBallots(3, "A>B>C", 3, "B>C>A", 2);
+        check.same("points over C do not count", points.winner(3) + " " + points.spoiler(3), "1 2");
+        Ballothall rounds = Houses.withBallots(3, "A>B>C", 4, "C>B>A", 3, "B>C>A", 2);
+        check.same("B gets A's ballots in the runoff", rounds.winner(1) + " " + rounds.spoiler(1), "2 0");
+        Ballothall firsts = Houses.withBallots(8, "A", 5, "H=G>B", 3, "B", 3);
+        check.same("neither H nor G alone vanish as a group", firsts.winner(0) + " " + firsts.spoiler(0), "0 -1");
     }
 
     // ---- promise 39 and section 7
@@ -464,6 +508,8 @@ public final class WinnerEdgeTest {
         nobody.setLot(false, 1, 0);
         nobody.setLot(false, 0, 1);
         check.same("and a lot", nobody.safeAfter(), 4);
+        check.same("the others are looked at later", Houses.withBallots(2, "A", 10, "B", 4).safeAfter(), 7);
+        check.same("those of nobody as well", Houses.withBallots(2, "A", 10, "", 4).safeAfter(), 7);
         Ballothall zero = Houses.withBallots(2, "B", 4, "A", 5);
         zero.takeBack(0, 4);
         check.same("a kind with the count 0", zero.safeAfter(), 3);
@@ -472,6 +518,7 @@ public final class WinnerEdgeTest {
 
     public static void main(String[] arguments) {
         rangeOfWays();
+        fiveWays();
         nobodyWins();
         everybodyEqual();
         tiesByLot();
@@ -485,6 +532,7 @@ public final class WinnerEdgeTest {
         answerOfMore();
         fiveCandidates();
         placesOfGain();
+        approvalOfFalseBallots();
         kindsThatGain();
         searchingChangesNothing();
         spoilers();
