@@ -202,13 +202,7 @@ public final class ModelTest {
     }
 
     private boolean run(int calls) {
-        List<String> names = new ArrayList<>();
-        for (Method m : Ballothall.class.getDeclaredMethods()) {
-            if (java.lang.reflect.Modifier.isPublic(m.getModifiers())) {
-                names.add(m.getName());
-            }
-        }
-        names.sort(null);
+        List<String> names = names();
         int first = random.nextInt(9);
         for (int i = 0; i < first; i++) {
             if (!call("candidate")) {
@@ -232,6 +226,42 @@ public final class ModelTest {
             }
         }
         return call("errors");
+    }
+
+    /** A house that is filled up to its limits, or to one less, before other calls are done. */
+    private boolean runFull() {
+        boolean good = true;
+        for (int i = 0; i < 8 && good; i++) {
+            good = agree("candidate") && agree("list", 1 + random.nextInt(1000)) && agree("ally", i, upTo(4));
+        }
+        for (int kind = upTo(1); kind < 30 && good; kind++) {
+            for (char sign : Houses.kindText((kind * 11 + 3) % 56).toCharArray()) {
+                good = good && agree("type", (long) sign);
+            }
+            good = good && agree("ballots", 1 + random.nextInt(ballotSize));
+        }
+        for (int i = upTo(1); i < 16 && good; i++) {
+            good = agree("ward", 1 + random.nextInt(9), upTo(9), upTo(9));
+        }
+        for (int i = upTo(1); i < 12 && good; i++) {
+            good = agree("member", upTo(9));
+        }
+        List<String> names = names();
+        for (int i = 0; i < 300 && good; i++) {
+            good = call(names.get(random.nextInt(names.size())));
+        }
+        return good && call("errors");
+    }
+
+    private static List<String> names() {
+        List<String> names = new ArrayList<>();
+        for (Method m : Ballothall.class.getDeclaredMethods()) {
+            if (java.lang.reflect.Modifier.isPublic(m.getModifiers())) {
+                names.add(m.getName());
+            }
+        }
+        names.sort(null);
+        return names;
     }
 
     private static final int CALLS_OF_PILE = 245;
@@ -293,7 +323,8 @@ public final class ModelTest {
         long start = arguments.length > 1 ? Long.parseLong(arguments[1]) : 1;
         int failed = 0;
         for (long seed = start; seed < start + runs && failed < 3; seed++) {
-            if (!new ModelTest(seed).run(400) || !new ModelTest(seed).countMany()) {
+            if (!new ModelTest(seed).run(400) || !new ModelTest(seed).countMany()
+                    || seed % 4 == 0 && !new ModelTest(seed).runFull()) {
                 System.out.println("seed " + seed);
                 failed++;
             }
