@@ -147,7 +147,7 @@ public final class BallotEdgeTest {
     }
 
     private static void numbersOfLots() {
-        check.sentence(3, "An IndexOutOfBoundsException is thrown for a candidate, list that does not exist");
+        check.sentence(3, "Throws IndexOutOfBoundsException see section 1");
         for (int number : new int[] {-1, 4, 8, MIN, MAX}) {
             refused(BallotEdgeTest::busy, "setLot(false, " + number + ", 0)", INDEX, hall -> hall.setLot(false, number, 0));
         }
@@ -504,7 +504,7 @@ public final class BallotEdgeTest {
     // ---- promises 7 to 9
 
     private static void numbersOfKinds() {
-        check.sentence(7, "An IndexOutOfBoundsException is thrown for a ballot kind that does not exist");
+        check.sentence(7, "Throws IndexOutOfBoundsException see section 1");
         for (int kind : new int[] {-1, 3, 30, MIN, MAX}) {
             refused(BallotEdgeTest::busy, "countOf(" + kind + ")", INDEX, hall -> hall.countOf(kind));
             refused(BallotEdgeTest::busy, "kindAt(" + kind + ", 0, true)", INDEX, hall -> hall.kindAt(kind, 0, true));
@@ -518,7 +518,7 @@ public final class BallotEdgeTest {
             hall.undo();
             return hall;
         }, "a kind that was undone", INDEX, hall -> hall.countOf(3));
-        check.sentence(8, "An IndexOutOfBoundsException is thrown for a candidate that does not exist");
+        check.sentence(8, "Throws IndexOutOfBoundsException see section 1");
         for (int candidate : new int[] {-1, 4, 8, MIN, MAX}) {
             refused(BallotEdgeTest::busy, "kindAt(0, " + candidate + ", true)", INDEX,
                 hall -> hall.kindAt(0, candidate, true));

@@ -17,6 +17,7 @@ final class Check {
     private String sentence = "";
     private final Set<String> sentences = new HashSet<>();
     private int checked;
+    private int checkedAhead;
     private int wrong;
 
     Check(String itsName) {
@@ -30,9 +31,19 @@ final class Check {
 
     /** What follows looks at this sentence, which the document has at this promise; 0 for its terms. */
     void sentence(int itsPromise, String words) {
+        needChecks();
         promise = itsPromise;
         sentence = words;
         sentences.add(itsPromise + words);
+        checkedAhead = checked;
+    }
+
+    /** A sentence that is quoted, but not looked at, is wrong as well. */
+    private void needChecks() {
+        if (!sentence.isEmpty() && checked == checkedAhead) {
+            wrong++;
+            System.out.println(name + ", promise " + promise + ", \"" + sentence + "\": there is no check of it");
+        }
     }
 
     void same(String what, Object got, Object due) {
@@ -69,6 +80,7 @@ final class Check {
     }
 
     void end() {
+        needChecks();
         System.out.println(name + ": " + (sentences.isEmpty() ? "" : sentences.size() + " sentences, ") + checked + " checks, "
             + wrong + " wrong");
         if (wrong > 0) {

@@ -60,8 +60,8 @@ public final class CountEdgeTest {
     // ---- section 4: passing on
 
     private static void equalParts() {
-        check.sentence(0, "it goes to the hopeful candidates of the first group of the kind that has any, in equal parts if "
-            + "there are several");
+        check.sentence(0, "it goes to the hopeful candidates of the first group of the kind that has any (the last group does not "
+            + "count), in equal parts if there are several");
         String all = "A=B=C=D=E=F=G=H";
         for (int size = 1; size <= 8; size++) {
             Ballothall hall = counted(1, 8, all.substring(0, 2 * size - 1), 1);
@@ -191,8 +191,8 @@ public final class CountEdgeTest {
     }
 
     private static void surplus() {
-        check.sentence(0, "They keep the quota; if the pile is greater, then of each of their parcels the part (pile - quota) / "
-            + "pile is passed on, and the rest stays.");
+        check.sentence(0, "They keep the quota; if the pile is greater, then of each of their parcels, in the order in which they came, "
+            + "the part (pile - quota) / pile is passed on, and the rest stays.");
         Ballothall equal = counted(2, 4, "A>B", 4, "C>B", 3, "D", 3, "", 1);
         check.same("nothing of a pile that is the quota", piles(equal, 1, 4), "4 0 3 3 1");
         Ballothall one = counted(2, 4, "A>B", 5, "C>B", 3, "D", 3);
@@ -316,7 +316,7 @@ public final class CountEdgeTest {
     }
 
     private static void surplusAheadOfOthers() {
-        check.sentence(0, "(c) then of each of their parcels the part is passed on");
+        check.sentence(0, "then of each of their parcels, in the order in which they came, the part");
         // C passes 3/7 of 7 on; A, who comes ahead of C, passes all that came from C on when they go.
         Ballothall first = counted(2, 4, "C>A>B", 5, "C>D", 2, "A>B", 1, "B", 2, "D", 1);
         check.same("quota()", first.quota(), 4);

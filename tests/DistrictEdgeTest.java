@@ -248,9 +248,9 @@ public final class DistrictEdgeTest {
 
     private static void numbersOfMembers() {
         for (int member : new int[] {-1, 3, 12, MIN, MAX}) {
-            check.sentence(48, "An IndexOutOfBoundsException is thrown for a member that does not exist");
+            check.sentence(48, "Throws IndexOutOfBoundsException see section 1");
             refused(DistrictEdgeTest::busy, "swings(" + member + ")", INDEX, hall -> hall.swings(member));
-            check.sentence(49, "An IndexOutOfBoundsException is thrown for a member that does not exist");
+            check.sentence(49, "Throws IndexOutOfBoundsException see section 1");
             refused(DistrictEdgeTest::busy, "ordersTurned(" + member + ")", INDEX, hall -> hall.ordersTurned(member));
         }
         refused(DistrictEdgeTest::full, "swings(12)", INDEX, hall -> hall.swings(12));

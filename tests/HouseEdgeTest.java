@@ -424,7 +424,7 @@ public final class HouseEdgeTest {
     // ---- what holds for every call
 
     private static void manyCalls() {
-        check.sentence(0, "An object is used for at most 512 calls after it has been made");
+        check.sentence(0, "An object is used for at most 512 calls after it has been made; what later calls answer is free.");
         Ballothall hall = new Ballothall();
         for (int i = 0; i < 500; i++) {
             hall.setQuota(1 + i);

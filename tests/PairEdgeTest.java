@@ -33,11 +33,11 @@ public final class PairEdgeTest {
 
     private static void numbersOfCandidates() {
         for (int wrong : new int[] {-1, 4, 8, MIN, MAX}) {
-            check.sentence(25, "An IndexOutOfBoundsException is thrown for a candidate that does not exist");
+            check.sentence(25, "Throws IndexOutOfBoundsException see section 1");
             refused(PairEdgeTest::busy, "ahead(" + wrong + ", 0)", INDEX, hall -> hall.ahead(wrong, 0));
             refused(PairEdgeTest::busy, "ahead(0, " + wrong + ")", INDEX, hall -> hall.ahead(0, wrong));
             refused(PairEdgeTest::busy, "ahead of itself: " + wrong, INDEX, hall -> hall.ahead(wrong, wrong));
-            check.sentence(27, "An IndexOutOfBoundsException is thrown for a candidate that does not exist");
+            check.sentence(27, "Throws IndexOutOfBoundsException see section 1");
             refused(PairEdgeTest::busy, "strongestPath(" + wrong + ", 0)", INDEX, hall -> hall.strongestPath(wrong, 0));
             refused(PairEdgeTest::busy, "strongestPath(0, " + wrong + ")", INDEX, hall -> hall.strongestPath(0, wrong));
             refused(PairEdgeTest::busy, "a path to itself: " + wrong, INDEX, hall -> hall.strongestPath(wrong, wrong));
@@ -48,11 +48,11 @@ public final class PairEdgeTest {
     }
 
     private static void oneAndTheSame() {
-        check.sentence(25, "0 for one and the same candidate");
-        check.sentence(27, "0 for one and the same candidate");
         Ballothall circle = Houses.withBallots(3, "A>B>C", 4, "B>C>A", 3, "C>A>B", 2);
         for (int c = 0; c < 3; c++) {
+            check.sentence(25, "0 for one and the same candidate");
             check.same("ahead of itself", circle.ahead(c, c), 0);
+            check.sentence(27, "0 for one and the same candidate");
             check.same("a path to itself", circle.strongestPath(c, c), 0);
         }
         for (int c = 0; c < 8; c++) {

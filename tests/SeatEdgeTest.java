@@ -114,7 +114,7 @@ public final class SeatEdgeTest {
     }
 
     private static void numbersOfLists() {
-        check.sentence(11, "An IndexOutOfBoundsException is thrown for a list that does not exist");
+        check.sentence(11, "Throws IndexOutOfBoundsException see section 1");
         for (int list : new int[] {-1, 3, 8, MIN, MAX}) {
             refused(SeatEdgeTest::busy, "setVotes(" + list + ", 0)", INDEX, hall -> hall.setVotes(list, 0));
             refused(SeatEdgeTest::busy, "setVotes(" + list + ", -1)", INDEX, hall -> hall.setVotes(list, -1));
@@ -188,8 +188,8 @@ public final class SeatEdgeTest {
     // ---- section 3: divisors
 
     private static void eachDivisor() {
-        check.sentence(0, "The methods are: 0 the divisors 1, 2, 3; 1 the divisors 1, 3, 5; 2 the divisors 1.4, 3, 5; "
-            + "3 the divisors 1, 4, 7; 4 the divisors 2, 3, 4 (each continued in the same steps)");
+        check.sentence(0, "The methods are: 0 the divisors 1, 2, 3 and so on; 1 the divisors 1, 3, 5; 2 the divisors 1.4, 3, 5; "
+            + "3 the divisors 1, 4, 7; 4 the divisors 2, 3, 4 (each continued in the same steps); 5 largest remainders.");
         for (int method = 0; method < 5; method++) {
             for (int had = 1; had < 60; had++) {
                 int unit = MOST_VOTES / divisor(method, had);
@@ -279,7 +279,7 @@ public final class SeatEdgeTest {
     // ---- section 3: thresholds
 
     private static void threshold() {
-        check.sentence(0, "A unit whose votes times 100 are less than the threshold times all votes takes no part");
+        check.sentence(0, "A unit whose votes times 100 are less than the threshold times all votes");
         for (int percent = 1; percent <= 20; percent++) {
             Ballothall hall = Houses.withLists(percent * 10, 1000 - percent * 10, 0);
             check.same("just enough", hall.seats(0, 10, percent), 2);

