@@ -364,6 +364,9 @@ public final class PromiseTest {
         check.same("5 : 2 + 3 and 5 : 2 + 4", with("D", 0, 3) + " " + with("D", 0, 4), "0 3");
         check.same("without the fives", with("A>B|C", 0, -2) + " " + with("A>B|C", 0, -3), "0 2");
         check.same("9 : 7 + 2 and 9 : 7 + 3", with("C>A", 4, 2) + " " + with("C>A", 4, 3), "1 2");
+        // By runoff A 5, C 3 + 4; with four less of B=C>D it is 5 : 3, with two less 5 : 5, with one less 5 : 6.
+        check.same("less by runoff", with("B=C>D", 1, -1) + " " + with("B=C>D", 1, -2) + " " + with("B=C>D", 1, -4), "2 0 0");
+        check.same("more by runoff", with("A>C", 1, 1) + " " + with("A>C", 1, 2), "2 0");
         check.same("errors", with("A>B>", 0, 1) + " " + with("E", 0, 1) + " " + with("A=A", 0, 1), "-7 -3 -5");
         check.same("no candidates", new Ballothall().winnerWith(0, 5), NONE);
         check.sentence(35, "Throws IllegalArgumentException see section 1");
@@ -375,6 +378,19 @@ public final class PromiseTest {
         check.same("A wins ties", hall.winner(0) + " " + hall.gain(0), "0 -1");
         hall.setLot(false, 0, 50);
         check.same("B wins ties", hall.winner(0) + " " + hall.gain(0), "0 2");
+        check.sentence(36, "so that the winner by the way is then a candidate that the kind ranks ahead of the present winner.");
+        Ballothall first = Houses.withBallots(4, "C=D>B", 1, "A", 1, "C", 1);
+        check.same("C is ahead of A, in a group ahead of the next one", first.gain(0) + " " + first.gainAt(0, 0), "0 2");
+        // By runoff B goes, and C wins by 5 : 4. One of A>B>C as B>A>C makes 3 : 3 : 3, so that C goes, and B wins by 6 : 3.
+        Ballothall runoff = Houses.withBallots(3, "A>B>C", 4, "B>C", 2, "C>B", 3);
+        check.same("by runoff", runoff.winner(1) + " " + runoff.gain(1), "2 0");
+        check.same("the false ballot", join(3, place -> runoff.gainAt(1, place)), "1 0 2");
+        runoff.setLot(false, 1, 99);
+        check.same("if B goes then", runoff.winner(1) + " " + runoff.gain(1), "2 -1");
+        Ballothall undone = Houses.withBallots(3, "A", 2, "B", 2, "C>B", 1);
+        check.same("C>B as B", undone.gain(0), 2);
+        undone.undo();
+        check.same("a kind that was undone", undone.gain(0), NONE);
         check.sentence(36, "Throws IllegalArgumentException see section 1");
         refused(PromiseTest::poll, ARGUMENT, "gain(5)", house -> house.gain(5));
         check.sentence(37, "Returns a candidate of the false ballot that gain() finds: of several for that kind the first one in "
@@ -514,6 +530,11 @@ public final class PromiseTest {
         check.same("B: 1, 0, 2, 1", poll().meanRank(1), (5 + 3 * 2 + 2) / 14.0);
         check.same("C: 2, 0, 0, 1", poll().meanRank(2), (5 * 2 + 2) / 14.0);
         check.same("D: 3, 1, 2, 0", poll().meanRank(3), (5 * 3 + 4 + 3 * 2) / 14.0);
+        Ballothall undone = poll();
+        Check.cast(undone, "B>C>D>A", 70);
+        check.same("A behind three groups", undone.meanRank(0), (13 + 70 * 3) / 84.0);
+        undone.undo();
+        check.same("a kind that was undone", undone.meanRank(0), 13 / 14.0);
         check.sentence(52, "Throws IndexOutOfBoundsException see section 1");
         refused(PromiseTest::poll, INDEX, "meanRank(4)", house -> house.meanRank(4));
         check.sentence(53, "Returns the share of the seats of the latest seats() that a list got. - list: a list");
